@@ -533,6 +533,68 @@ public final class ModelTest {
         }
     }
 
+    private static int hunted = 0;
+
+    private static World anyWorld(Random d) {
+        World o = new World();
+        o.n = 16 + d.nextInt(15);
+        o.day = d.nextInt(3) == 0 ? 930 + d.nextInt(70) : d.nextInt(60);
+        o.wind = d.nextInt(5);
+        for (int c = 0; c < 30; c++) o.cur[c] = d.nextInt(3) == 0 && c < o.n ? d.nextInt(7) : 3;
+        for (int k = 0; k < 3; k++) o.addWalker(d.nextInt(o.n), d.nextInt(4), d.nextInt(2));
+        for (int i = 0; i < 3; i++) o.add(d.nextInt(6), d.nextInt(10), d.nextInt(o.n), d.nextInt(3), 0);
+        return o;
+    }
+
+    private static AddressedToYou built(World o) {
+        AddressedToYou x = new AddressedToYou();
+        x.paves(o.n);
+        for (int c = 0; c < o.n; c++) x.current(c, o.cur[c]);
+        x.tell(0, o.wind);
+        x.tell(1, o.day);
+        for (int[] k : o.w) x.walker(k[0], k[1], k[2]);
+        for (int[] b : o.b) x.thrown(b[0], b[1], b[2], b[3]);
+        return x;
+    }
+
+    /** Whether something comes for the first time behind 59 to 61 days. */
+    private static boolean isLate(World o) {
+        World told = o.twin(), free = o.twin();
+        for (int[] b : free.b) b[3] = -1;
+        int when = 0, meets = 0, two = 0, join = 0;
+        for (int day = 1; day <= 61; day++) {
+            told.pass(1);
+            free.pass(1);
+            if (when == 0 && told.b[0][4] == 1) when = day;
+            if (meets == 0 && free.b[0][4] == 0 && free.b[0][2] == free.w[0][0]) meets = day;
+            if (two == 0 && free.w[0][0] == free.w[1][0]) two = day;
+            if (join == 0 && free.b[0][4] == 0 && free.b[1][4] == 0 && free.b[0][2] == free.b[1][2]) join = day;
+            if (day == 30 && when > 0 && meets > 0 && two > 0 && join > 0) return false;
+        }
+        return when >= 59 || meets >= 59 || two >= 59 || join >= 59;
+    }
+
+    private static final int[][] LATE = {{18, 0, 60, 0}, {18, 0, 59, 1}, {19, 0, 60}, {20, 60}, {20, 59}, {21, 0}, {21, 1}, {22, 0, 0},
+        {23, 0}, {24, 0, 1}, {25, 3, 0, 0, 0}, {25, 3, 0, 0, 1}, {25, 0, 0, 0, 1}, {29, 60, -2}, {29, 59, -1}, {29, 60, 0}, {30, 0, 0}, {30, 0, 1},
+        {32, 0}, {33, 60, 0}, {33, 60, 1}, {34, 3}, {36, 0}, {37, 0, 0}, {37, 0, 1}, {38, 0}, {39, 0}, {40, 0, 1}, {41, 0}, {42, 0}, {45}, {49, 60}, {34, 1}};
+
+    /** Worlds in which something comes just within 60 days, or just not. */
+    private static boolean hunt(int number, Random d) {
+        World o = anyWorld(d);
+        if (!isLate(o)) return true;
+        hunted++;
+        AddressedToYou x = built(o);
+        ModelTest m = new ModelTest();
+        m.w = o;
+        for (int[] call : LATE) {
+            int[] a = java.util.Arrays.copyOf(call, 6);
+            long want = m.call(a[0], a[1], a[2], a[3], a[4], 0, 0);
+            long got = real(x, a[0], a[1], a[2], a[3], a[4], 0, 0);
+            if (got != want) return tell(number, 0, "late: " + java.util.Arrays.toString(call) + " answered " + got + ", due is " + want);
+        }
+        return true;
+    }
+
     private static boolean tell(int number, int i, String what) {
         System.out.println("run " + number + ", call " + i + ": " + what);
         return false;
@@ -542,7 +604,8 @@ public final class ModelTest {
         int many = args.length > 0 ? Integer.parseInt(args[0]) : 150;
         int wrong = 0;
         for (int i = 0; i < many && wrong < 5; i++) if (!run(i, new Random(1000 + i))) wrong++;
-        System.out.println(runs + " calls, " + wrong + " runs wrong");
+        for (int i = 0; i < 4000 * many && wrong < 5; i++) if (!hunt(i, new Random(7000000 + i))) wrong++;
+        System.out.println(hunted + " late worlds, " + runs + " calls, " + wrong + " runs wrong");
         if (wrong != 0) System.exit(1);
     }
 }

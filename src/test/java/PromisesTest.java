@@ -273,7 +273,8 @@ public final class PromisesTest {
         due("WIND", x.tell(0, 4), 2);
         due("WIND", x.tell(0, 0), 4);
         due("DAY", x.tell(1, 999), 0);
-        due("DAY", x.tell(1, 5), 999);
+        due("DAY", x.tell(1, 0), 999);
+        due("DAY", x.tell(1, 5), 0);
         int[][] bad = {{0, -1}, {0, 5}, {1, -1}, {1, 1000}, {2, 0}, {-1, 0}, {BIG, SMALL}};
         for (int[] b : bad) refused(x, BAD, "tell", y -> y.tell(b[0], b[1]));
     }
@@ -321,6 +322,20 @@ public final class PromisesTest {
         reads("wind 3\n", -2006);
         reads("wind -1", -2005);
         reads("wind 0003", -2005);
+        reads("windz 3", -2000);
+        reads("wind 4", 1);
+        reads("wind 5", -2005);
+        reads("current 15 6", 1);
+        reads("current 16 6", -2008);
+        reads("current 15 7", -2011);
+        reads("walker 15 3 1", 1);
+        reads("walker 15 4 1", -2010);
+        reads("walker 15 3 2", -2012);
+        reads("walker 0 0 0;bottle 5 9 0 0", 2);
+        reads("walker 0 0 0;bottle 6 0 0 0", -2020);
+        reads("cells 30", 1);
+        reads("cells 31", -2006);
+        reads("day 0", 1);
         reads("day 999", 1);
         reads("day 1000", -2004);
         reads("wind w", -2005);
