@@ -390,13 +390,10 @@ public final class AddressedToYou {
         int bits = 0;
         trial.become(now);
         for (int k = 0; k < several; k++) {
-            thought.become(b);
             if (what == 0) {
                 trial.wind = k;
-            } else {
-                thought.kind = k;
             }
-            if (driftsAlong(shelf, n)) {
+            if (driftsAlong(shelf, n, what == 0 ? b.kind : k, b.a)) {
                 bits |= 1 << k;
             }
         }
@@ -410,8 +407,8 @@ public final class AddressedToYou {
         }
         int bits = 0;
         for (int c = 0; c < now.cells; c++) {
-            thought.become(b);
-            thought.cell = c;
+            // thought of there, it is AFLOAT there, however it is in truth
+            thought.start(b.kind, b.a, c, NONE);
             now.follow(track, thought, null, n);
             if (track.howAt(n) == AFLOAT && track.cellAt(n) == cell) {
                 bits |= 1 << c;
@@ -903,13 +900,13 @@ public final class AddressedToYou {
         return count;
     }
 
-    /** Whether the bottle that is thought of, put in the row's first cell, goes as the row tells in the trial's world. */
-    private boolean driftsAlong(Shelf shelf, int n) {
+    /** Whether a bottle for nobody, AFLOAT in the row's first cell, goes as the row tells in the trial's world. */
+    private boolean driftsAlong(Shelf shelf, int n, int kind, int a) {
         long start = shelf.take(0);
-        if (start < 0 || start >= trial.cells || thought.how == BROKEN) {
+        if (start < 0 || start >= trial.cells) {
             return false;
         }
-        thought.cell = (int) start;
+        thought.start(kind, a, (int) start, NONE);
         for (int i = 1; i < n; i++) {
             trial.spend(thought, trial.dayBehind(i - 1), NONE);
             if (thought.how == BROKEN || thought.cell != shelf.take(i)) {

@@ -261,7 +261,8 @@ public final class ModelTest {
                     if (s == 0) o.wind = k; else o.b[r][0] = k;
                     if (!in(rows[p][0], 0, w.n - 1)) continue;
                     o.b[r][2] = (int) rows[p][0];
-                    boolean so = o.b[r][4] != 2;
+                    o.b[r][4] = 0;
+                    boolean so = true;
                     for (int i = 1; i < q; i++) { o.pass(1); so &= o.b[r][4] != 2 && o.b[r][2] == rows[p][i]; }
                     if (so) bits |= 1 << k;
                 }
@@ -269,7 +270,7 @@ public final class ModelTest {
             case 28: { if (!bottle(p) || !in(q, 0, 30) || !cell(r)) return no(BAD);
                 int bits = 0;
                 for (int c = 0; c < w.n; c++) {
-                    World o = w.nobody(p); o.b[p][2] = c; o.pass(q);
+                    World o = w.nobody(p); o.b[p][2] = c; o.b[p][4] = 0; o.pass(q);
                     if (o.b[p][4] == 0 && o.b[p][2] == r) bits |= 1 << c;
                 }
                 return bits; }

@@ -543,6 +543,24 @@ public final class PromisesTest {
         pure(x, "no CELL", y -> y.fits(2, 1, 0, 0), 0);
         put(x, 2, 3, -1);
         pure(x, "no CELL", y -> y.fits(2, 1, 0, 0), 0);
+        part = "29 fits, one FOUND, one BROKEN in truth";
+        AddressedToYou z = withTape("walker 4 0 0;bottle 0 5 3 0;bottle 0 5 9 0;wind 3;current 9 6");
+        z.days(1);
+        due("FOUND", z.bottleOf(0, 4), 1);
+        due("BROKEN", z.bottleOf(1, 4), 2);
+        put(z, 0, 0, 4, 5, 6, 7);
+        put(z, 1, 0, 4, 4);
+        put(z, 2, 0, 9, 9);
+        for (int b = 0; b < 2; b++) {
+            int bottle = b;
+            pure(z, "WINDS", y -> y.fits(0, 4, bottle, 0), 8);
+            pure(z, "KINDS", y -> y.fits(0, 4, bottle, 1), 33);
+            pure(z, "WINDS, one element", y -> y.fits(0, 1, bottle, 0), 31);
+            pure(z, "KINDS, one element", y -> y.fits(0, 1, bottle, 1), 63);
+            pure(z, "it goes, but by no wind", y -> y.fits(1, 2, bottle, 0), 4);
+            pure(z, "BROKEN on the way", y -> y.fits(2, 2, bottle, 0), 0);
+        }
+        part = "29 fits";
         x.show(5, 0);
         for (int s : new int[] {-1, 8, BIG, SMALL}) refused(x, BAD, "fits", y -> y.fits(s, 1, 0, 0));
         for (int n : new int[] {0, 41, BIG, SMALL}) refused(x, BAD, "fits", y -> y.fits(6, n, 0, 0));
@@ -566,6 +584,19 @@ public final class PromisesTest {
         int[][] bad = {{-1, 0, 0}, {1, 0, 0}, {0, -1, 0}, {0, 31, 0}, {0, 0, -1}, {0, 0, 16}};
         for (int[] b : bad) refused(x, BAD, "from", y -> y.from(b[0], b[1], b[2]));
         pure(x, "30 days", y -> y.from(0, 30, 0), 0);
+        part = "30 from, one FOUND, one BROKEN in truth";
+        x = withTape("walker 4 0 0;bottle 0 0 3 0;bottle 0 0 9 0;wind 3;current 9 6");
+        x.days(1);
+        due("FOUND", x.bottleOf(0, 4), 1);
+        due("BROKEN", x.bottleOf(1, 4), 2);
+        for (int b = 0; b < 2; b++) {
+            int bottle = b;
+            pure(x, "now", y -> y.from(bottle, 0, 4), 1 << 4);
+            pure(x, "in a day", y -> y.from(bottle, 1, 4), 1 << 3);
+            pure(x, "past the one it's for", y -> y.from(bottle, 3, 5), 1 << 2);
+            pure(x, "BROKEN on the way", y -> y.from(bottle, 2, 10), 0);
+            pure(x, "at the end", y -> y.from(bottle, 30, 15), 63 << 10);
+        }
     }
 
     private static void pairing() {
