@@ -466,6 +466,8 @@ public final class PromisesTest {
         pure(x, "two now", y -> y.two(1, 2), 0);
         pure(x, "two", y -> y.two(1, 0), 2);
         pure(x, "two never", y -> y.two(0, 2), -1);
+        AddressedToYou far = withTape("cells 30;walker 0 0 0;walker 1 1 0");
+        pure(far, "up and down the whole coast", y -> y.two(0, 1), 57);
         refused(x, BAD, "two", y -> y.two(1, 1));
         for (int b : new int[] {-1, 4, BIG, SMALL}) { refused(x, BAD, "two", y -> y.two(b, 0)); refused(x, BAD, "two", y -> y.two(0, b)); }
         part = "41 round";
@@ -807,6 +809,11 @@ public final class PromisesTest {
         pure(x, "a BILL", y -> y.stays(5, 0), 1 << 15);
         pure(x, "a HEAVY one", y -> y.stays(1, 0), 65535 & ~(1 << 5));
         for (int[] b : new int[][] {{-1, 0}, {6, 0}, {0, -1}, {0, 10}}) refused(x, BAD, "stays", y -> y.stays(b[0], b[1]));
+        x.paves(30);
+        pure(x, "next in a new cell", y -> y.next(0, 0, 16), 18);
+        pure(x, "the new end", y -> y.next(0, 0, 29), 29);
+        pure(x, "stays at the new end", y -> y.stays(0, 0), 1 << 5 | 1 << 29);
+        refused(x, BAD, "next", y -> y.next(0, 0, 30));
     }
 
     private static void truth() {
@@ -916,6 +923,12 @@ public final class PromisesTest {
         if (!seen(x).equals(before)) { wrong++; System.out.println(part + ": not all is as it was"); }
         x.paves(30);
         due("a cell's current", x.currentAt(29), 3);
+        x.thrown(0, 0, 0, 0);
+        for (int s = 0; s < 8; s++) x.show(s, 1);
+        due("back", x.back(), 1);
+        for (int s = 0; s < 8; s++) due("a bottle that is no more", x.holds(s), -1);
+        due("SHELVES that hold something", x.status(9), 0);
+        x.show(0, 0);
         x.tell(0, 0);
         due("back once more", x.back(), 1);
         if (!seen(x).equals(before)) { wrong++; System.out.println(part + ": not all is as it was once more"); }
